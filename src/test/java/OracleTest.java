@@ -31,7 +31,7 @@ public final class OracleTest {
     }
 
     public static void main(String[] args) {
-        int runs = args.length > 0 ? Integer.parseInt(args[0]) : 150;
+        int runs = args.length > 0 ? Integer.parseInt(args[0]) : 300;
         for (int seed = 0; seed < runs; seed++) {
             new OracleTest(seed).run();
         }

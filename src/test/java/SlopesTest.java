@@ -101,6 +101,7 @@ public final class SlopesTest {
         // A line from (0, 0) through (to, 5) is steepest at 12 for the smallest to above 0.
         Script.run("a line", "load point 0 0;point 4 5; = 2", "bestPlace(1, 12) = 1", "bestPlace(1, -12) = -1", "bestPlace(1, 0) = -9",
             "undo() = -1", "value(4, 0) = 5");
+        Script.run("the ends count", "load point 8 0;point 0 5; = 2", "bestPlace(1, 12) = 9", "mirror() = 2", "bestPlace(1, -12) = -9");
         Script.run("its own place counts", "load point 0 0;point 1 5; = 2", "bestPlace(1, 12) = 1", "load point 0 0;point 1 5;point -1 -5; = 3",
             "bestPlace(1, 1) = -2", "bestPlace(0, 0) = 2");
         Script.run("there is none", "load point 0 1 weight 0;point 2 3 weight 0;told; = 2", "bestPlace(0, 5) = NoSuchElementException",

@@ -107,6 +107,14 @@ public final class TextTest {
         error("weight 1;", 2, 0);
         error("points 1 2;", 2, 0);
         error("poin", 2, 0);
+        error("joint 1 2;", 2, 0);
+        error("slain;", 2, 0);
+        error("bold;", 2, 0);
+        error("tola;", 2, 0);
+        error("glend 1;", 2, 0);
+        error("point 1 2 height 3;", 2, 10);
+        error("a", 2, 0);
+        error("z", 2, 0);
         error(";", 2, 0);
         error("7", 2, 0);
         error("-", 2, 0);
@@ -130,6 +138,11 @@ public final class TextTest {
         error("point 1 -21;", 3, 9);
         error("point 1 -20 weight 10", 3, 19);
         error("point 1 20 weight - 10", 3, 20);
+        error("point 10 2; + 1;", 3, 6);
+        error("point 1 21; + 1;", 3, 8);
+        error("point 1 -20 weight 10; + 1;", 3, 19);
+        error("point 1 20 weight ; + 1;", 2, 18);
+        error("blend 5; + 1;", 3, 6);
         error("blend 5", 3, 6);
         error("blend 99;", 3, 6);
     }
