@@ -41,6 +41,14 @@ final class Model {
     private int errorKind = 0;
     private int errorPosition = -1;
 
+    int bytes() {
+        return buffer.length();
+    }
+
+    int signs() {
+        return output.length();
+    }
+
     // ---- what the class is asked
 
     Object answer(String name, int... v) {

@@ -55,13 +55,7 @@ public final class OracleTest {
 
     private void call(String name, int... values) {
         calls++;
-        Object[] objects = new Object[values.length];
-        for (int k = 0; k < values.length; k++) {
-            boolean isBoolean = k == 0
-                    && (name.equals("degreeOf") || name.equals("coefficient") || name.equals("extreme") || name.equals("write"));
-            objects[k] = isBoolean ? (Object) (values[k] == 1) : (Object) values[k];
-        }
-        String got = Script.invoke(nodes, name, objects);
+        String got = Script.answer(nodes, name, values);
         Script.due(title + ", call " + calls + ": " + name + java.util.Arrays.toString(values), got, model.answer(name, values));
         if (name.startsWith("write") && !name.equals("written")) {
             StringBuilder due = new StringBuilder();

@@ -1,7 +1,9 @@
 import java.lang.reflect.InvocationTargetException;
 import java.lang.reflect.Method;
 import java.nio.charset.StandardCharsets;
+import java.util.ArrayList;
 import java.util.HashMap;
+import java.util.List;
 import java.util.Map;
 
 /**
@@ -34,7 +36,7 @@ final class Script {
         for (String line : lines) {
             int mark = line.lastIndexOf(" = ");
             String call = line.substring(0, mark).trim();
-            due(title + ": " + call, answer(nodes, call), line.substring(mark + 3).trim());
+            due(title + ": " + call, answerLine(nodes, call), line.substring(mark + 3).trim());
         }
         return nodes;
     }
@@ -55,37 +57,56 @@ final class Script {
         }
     }
 
-    private static String answer(WeightedNodes nodes, String call) {
+    /** The answer to a call whose parameters are numbers; of a boolean one 1 is true. */
+    static String answer(WeightedNodes nodes, String name, int... values) {
+        Class<?>[] types = FACE.get(name).getParameterTypes();
+        Object[] objects = new Object[values.length];
+        for (int k = 0; k < values.length; k++) {
+            objects[k] = types[k] == boolean.class ? (Object) (values[k] == 1) : (Object) values[k];
+        }
+        return invoke(nodes, name, objects);
+    }
+
+    private static String answerLine(WeightedNodes nodes, String call) {
         if (call.startsWith("load ")) {
             return loadText(nodes, call.substring(5).replace('|', '\n'));
         }
         if (call.startsWith("shows ")) {
             return shown(nodes, call.substring(6));
         }
-        return invoke(nodes, call);
+        return invokeLine(nodes, call);
     }
 
     static String loadText(WeightedNodes nodes, String text) {
         feedText(nodes, text);
-        return invoke(nodes, "load(" + text.length() + ")");
+        return invokeLine(nodes, "load(" + text.length() + ")");
     }
 
     static int feedText(WeightedNodes nodes, String text) {
-        byte[] bytes = text.getBytes(StandardCharsets.ISO_8859_1);
         int answer = 0;
+        for (int[] words : wordsOf(text)) {
+            answer = nodes.feed(words[0], words[1], words[2], words[3], words[4]);
+        }
+        return answer;
+    }
+
+    /** The parameters of the feeds that bring a text, the last one filled up with spaces. */
+    static List<int[]> wordsOf(String text) {
+        byte[] bytes = text.getBytes(StandardCharsets.ISO_8859_1);
+        List<int[]> feeds = new ArrayList<>();
         for (int from = 0; from < bytes.length; from += 20) {
             int[] words = new int[5];
             for (int k = 0; k < 20; k++) {
                 int sign = from + k < bytes.length ? bytes[from + k] & 255 : ' ';
                 words[k / 4] = words[k / 4] << 8 | sign;
             }
-            answer = nodes.feed(words[0], words[1], words[2], words[3], words[4]);
+            feeds.add(words);
         }
-        return answer;
+        return feeds;
     }
 
     private static String shown(WeightedNodes nodes, String call) {
-        int length = Integer.parseInt(invoke(nodes, call));
+        int length = Integer.parseInt(invokeLine(nodes, call));
         String text = writtenText(nodes);
         return text.length() == length ? text : text + " with the count " + length;
     }
@@ -102,7 +123,7 @@ final class Script {
         return text.toString();
     }
 
-    private static String invoke(WeightedNodes nodes, String call) {
+    private static String invokeLine(WeightedNodes nodes, String call) {
         int open = call.indexOf('(');
         String inside = call.substring(open + 1, call.length() - 1).trim();
         String[] words = inside.isEmpty() ? new String[0] : inside.split("\\s*,\\s*");
