@@ -31,7 +31,7 @@ public final class OracleTest {
     }
 
     public static void main(String[] args) {
-        int runs = args.length > 0 ? Integer.parseInt(args[0]) : 300;
+        int runs = args.length > 0 ? Integer.parseInt(args[0]) : 500;
         for (int seed = 0; seed < runs; seed++) {
             new OracleTest(seed).run();
         }
@@ -40,7 +40,8 @@ public final class OracleTest {
 
     private void run() {
         boolean edits = random.nextBoolean();
-        while (calls < 470) {
+        // What comes last, a text or a written polynomial, takes less than 112 calls.
+        while (calls < 400) {
             if (random.nextInt(60) == 0 || calls == 0) {
                 load();
             } else {
@@ -63,6 +64,7 @@ public final class OracleTest {
                 due.append(model.answer("written", k));
             }
             Script.due(title + ", call " + calls + ": the text of " + name, Script.writtenText(nodes), due);
+            calls += due.length() + 1;
         }
     }
 

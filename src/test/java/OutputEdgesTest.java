@@ -32,8 +32,9 @@ public final class OutputEdgesTest {
         // P(0) is x - 1, P(1) is x.
         Script.run("x", "load point 0 1 weight 1;point 1 0 weight 0;told; = 2", "shows write(false) = x-1", "shows write(true) = x-1",
             "setValue(0, -1) = 1", "shows write(false) = -x+1", "setWeight(0, -1) = 1", "shows write(false) = x-1", "shows write(true) = -x+1",
-            "setValue(0, 10) = -1", "shows write(false) = -10x+10", "setValue(0, 11) = 10", "shows write(false) = -11x+11");
-        // P(1) is x^3 + x^2 with the points -1, 0, 0 .. left out: x(x + 1)(x - 2) = x^3 - x^2 - 2x.
+            "setValue(0, 10) = -1", "shows write(false) = -10x+10", "setValue(0, 11) = 10", "shows write(false) = -11x+11",
+            "mirror() = 2", "shows write(true) = -x-1", "setWeight(0, 1) = -1", "shows write(true) = x+1", "shows write(false) = 11x+11");
+        // x(x + 1)(x - 2), and x(x + 1).
         Script.run("x^3", "load point 1 1 weight 1;point 0 0 weight 0;point -1 0 weight 0;point 2 0 weight 0;told; = 4",
             "shows write(false) = x^3-x^2-2x", "setValue(0, -1) = 1", "shows write(false) = -x^3+x^2+2x", "shows write(true) = x^3-x^2-2x");
         Script.run("x^2", "load point 1 1 weight 1;point 0 0 weight 0;point -1 0 weight 0;told; = 3", "shows write(false) = x^2+x",

@@ -114,6 +114,10 @@ public final class SlopeEdgesTest {
             "valueWithout(4, 2, 0) = 14", "valueWithout(4, 2, 1) = 3", "setMode(1, 1) = 1", "valueWithout(0, 2, 0) = 33",
             "valueWithout(0, 2, 1) = 7", "valueWithout(1, 2, 0) = 113", "valueWithout(1, 2, 1) = 27", "valueWithout(4, 2, 0) = 11",
             "valueWithout(4, 2, 1) = 2", "points() = 5", "undo() = 0");
+        // Without the third the denominator is 2x - 2: a gap at 1, or a pole.
+        Script.run("a gap or a pole would be", "load point 0 5;point 2 5;point 7 1;told; = 3", "valueWithout(2, 1, 0) = 5",
+            "valueWithout(2, 1, 1) = 1", "setValue(0, 6) = 5", "valueWithout(2, 1, 0) = NoSuchElementException",
+            "valueWithout(2, 1, 2) = IllegalArgumentException", "kindAt(1) = 0");
         Script.run("only weights of 0 are left", "load point 0 1 weight 0;point 2 3 weight 4;told; = 2", "value(1, 0) = 3",
             "valueWithout(1, 1, 0) = NoSuchElementException", "valueWithout(0, 1, 0) = 3", "valueWithout(0, 0, 0) = 3");
     }

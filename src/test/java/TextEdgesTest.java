@@ -209,6 +209,9 @@ public final class TextEdgesTest {
         Script.go(legal("blend 4;plain;told;"), "told last", "mode() = 2", "degree() = 4");
         Script.go(legal("blend 4;blend 1;"), "two degrees", "mode() = 1", "degree() = 1");
         Script.go(legal("blend 1;plain;blend 4;plain;"), "two degrees and plain", "mode() = 0", "degree() = 4");
+        Script.go(legal("told;point 1 2;"), "a point behind told", "mode() = 2", "points() = 1");
+        Script.go(legal("blend 3;point 1 2;point 0 5 weight 2;"), "points behind blend", "mode() = 1", "degree() = 3", "points() = 2");
+        Script.go(legal("told;point 1 2;plain;point 4 5;"), "a point behind plain", "mode() = 0", "points() = 2");
         Script.run("no mode stays from before", "setMode(2, 0) = 0", "load point 1 2; = 1", "mode() = 0", "load blend 3; = 0",
             "load plain; = 0", "mode() = 0", "degree() = 0");
     }
