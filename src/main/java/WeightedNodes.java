@@ -1222,7 +1222,7 @@ public final class WeightedNodes {
 
         private void putDigits(long number) {
             long unit = 1;
-            for (int k = 0; k < 18 && number / unit >= 10; k++) {
+            for (int k = 0; k < 18 && unit <= number / 10; k++) {
                 unit *= 10;
             }
             for (int k = 0; k < 19 && unit > 0; k++) {
